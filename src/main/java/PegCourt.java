@@ -815,7 +815,7 @@ public final class PegCourt {
         }
 
         private boolean isLeft(int code) {
-            return allowed[code] && Integer.bitCount(falseTurns[code]) <= lies;
+            return book.has(code) && allowed[code] && Integer.bitCount(falseTurns[code]) <= lies;
         }
 
         private void findLeft() {
@@ -905,7 +905,10 @@ public final class PegCourt {
         }
 
         private void gather(Play play, int turns) {
-            Arrays.fill(known, false);
+            int sets = 1 << turns;
+            for (int set = 0; set < sets; set++) {
+                known[set] = false;
+            }
             found = 0;
             for (int code = 0; code < play.book.size; code++) {
                 int falseSet = play.falseTurns[code];
@@ -1097,8 +1100,11 @@ public final class PegCourt {
      */
     private static final class Forest {
         private static final int ROOM_FOR_SETS = 1 << MOST_IN_TREE;
-        private static final int NO_SHORT = -1, ENTRY_BITS = 11, SLOTS = 2048;
+        private static final int NO_SHORT = -1, ENTRY_BITS = 11, NO_LIMIT = 1000000;
         private static final int FULL_CLASS = 15;
+        private static final int SLOT_BITS = 11, SLOTS = 1 << SLOT_BITS;
+        /** Odd, and without a pattern in its bits: shapes that differ little come to slots that differ much. */
+        private static final long SCATTER = 0x9E3779B97F4A7C15L;
 
         private final CodeBook book;
         private final boolean anyCode;
@@ -1168,52 +1174,64 @@ public final class PegCourt {
             if (entries >= guesses.length) {
                 return;
             }
-            int base = entries * MOST_IN_TREE;
-            int used = 0;
-            int own = 0;
-            long shape = 0;
-            Arrays.fill(classOfAnswer, -1);
-            for (int i = 0; i < members; i++) {
-                int answer = book.answerOfCodes(guess, codes[i]);
-                int group = FULL_CLASS;
-                if (answer == book.fullAnswer()) {
-                    own = 1 << i;
-                } else {
-                    if (classOfAnswer[answer] < 0) {
-                        classOfAnswer[answer] = used;
-                        classes[base + used] = 0;
-                        used++;
-                    }
-                    group = classOfAnswer[answer];
-                    classes[base + group] |= 1 << i;
+            long shape = classify(guess);
+            if (anyCode) {
+                int slot = slotOf(shape);
+                if (slots[slot] != 0) {
+                    return;
                 }
-                shape |= (long) group << 4 * i;
-            }
-            if (anyCode && isKnown(shape)) {
-                return;
+                slots[slot] = entries + 1;
             }
             guesses[entries] = guess;
-            owns[entries] = own;
-            classCounts[entries] = used;
+            owns[entries] = bitOf(guess);
             shapes[entries] = shape;
             entries++;
         }
 
-        /** A shape that is not known yet gets the slot of the entry that is being made. */
-        private boolean isKnown(long shape) {
-            int slot = (int) (shape * 0x9E3779B97F4A7C15L >>> 53);
+        /** Writes the classes of the entry that is being made. Their shape has four bits for each member's class. */
+        private long classify(int guess) {
+            int base = entries * MOST_IN_TREE;
+            int used = 0;
+            long shape = 0;
+            Arrays.fill(classOfAnswer, NONE);
+            classOfAnswer[book.fullAnswer()] = FULL_CLASS;
+            for (int i = 0; i < members; i++) {
+                int answer = book.answerOfCodes(guess, codes[i]);
+                if (classOfAnswer[answer] == NONE) {
+                    classOfAnswer[answer] = used;
+                    classes[base + used] = 0;
+                    used++;
+                }
+                int group = classOfAnswer[answer];
+                if (group != FULL_CLASS) {
+                    classes[base + group] |= 1 << i;
+                }
+                shape |= (long) group << 4 * i;
+            }
+            classCounts[entries] = used;
+            return shape;
+        }
+
+        /** Where a shape is known, or else would be: there are more slots than entries, so one is always free. */
+        private int slotOf(long shape) {
+            int slot = (int) (shape * SCATTER >>> 64 - SLOT_BITS);
             for (int tries = 0; tries < SLOTS; tries++) {
                 int entry = slots[slot] - 1;
-                if (entry < 0) {
-                    slots[slot] = entries + 1;
-                    return false;
-                }
-                if (shapes[entry] == shape) {
-                    return true;
+                if (entry < 0 || shapes[entry] == shape) {
+                    return slot;
                 }
                 slot = slot + 1 & SLOTS - 1;
             }
-            return false;
+            return slot;
+        }
+
+        private int bitOf(int code) {
+            for (int i = 0; i < members; i++) {
+                if (codes[i] == code) {
+                    return 1 << i;
+                }
+            }
+            return 0;
         }
 
         private int allMembers() {
@@ -1244,7 +1262,7 @@ public final class PegCourt {
             int depth = leastDepth();
             if (members > 1) {
                 for (int entry = 0; entry < entries; entry++) {
-                    if (sumBehind(entry, allMembers(), depth, Integer.MAX_VALUE) > 0) {
+                    if (sumBehind(entry, allMembers(), depth, NO_LIMIT) > 0) {
                         return guesses[entry];
                     }
                 }
@@ -1282,7 +1300,7 @@ public final class PegCourt {
         private int findShort(int set, int depth) {
             int size = Integer.bitCount(set);
             int floor = 2 * size - 1;
-            int least = Integer.MAX_VALUE;
+            int least = NO_LIMIT;
             int first = 0;
             for (int entry = 0; entry < entries && least > floor; entry++) {
                 int sum = sumBehind(entry, set, depth, least);
@@ -1291,7 +1309,7 @@ public final class PegCourt {
                     first = entry;
                 }
             }
-            return least == Integer.MAX_VALUE ? NO_SHORT : least << ENTRY_BITS | first;
+            return least == NO_LIMIT ? NO_SHORT : least << ENTRY_BITS | first;
         }
 
         /**
