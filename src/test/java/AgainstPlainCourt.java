@@ -170,9 +170,27 @@ public final class AgainstPlainCourt {
     }
   }
 
+  /** Many weak turns, with lies among them, so that quarrels are large. */
+  private void quarrels() {
+    for (int i = 0; i < of("0"); i++) call("peg", i, any(3) == 0 ? -1 : any(of("1")));
+    int got = call("tell", any(7) == 0 ? answer() : plain.call("reply", secret));
+    if (got == -4) for (int i = -1; i < 11; i++) call("quarrel", i);
+    if (got == -2) while (of("5") > 3) call("undo");
+  }
+
   private boolean run() {
     begin();
+    int focus = any(5);
+    if (focus == 0) call("lies", any(3));
+    if (focus == 1) enlistSome();
+    if (focus == 2) for (int d = 0; d < 5; d++) call("rack", d, 1 + any(3), 3 + any(6));
     for (int i = 0; i < CALLS && !wrong; i++) {
+      if (any(2) == 0 && focus < 3) {
+        if (focus == 0) quarrels();
+        if (focus == 1) trees();
+        if (focus == 2) shelves();
+        continue;
+      }
       switch (any(16)) {
         case 0: setUp(); break;
         case 1: case 2: case 3: case 4: case 5: playOn(); break;

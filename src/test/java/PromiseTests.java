@@ -243,6 +243,10 @@ public final class PromiseTests {
     run("least 0 = -5; lies 2 = 0; least 1 = -6; lies 0 = 2; law 3 0 = 0; least 0 = -5", repeated(0, 10, "enlist THIS = NEXT"),
         "least 1 = 3; enlist 10 = 11; least 0 = -5; least 1 = -5; least 3 = -1");
     run(FOUR_DOUBLES, "least 0 = 3; least 1 = 4; show 9 = 1; tell 20 = 1; least 0 = 1; least 1 = 1; undo = 0; least 0 = 3");
+    // the same numbers are other codes after begin()
+    String again = "enlist 0 = 1; enlist 9 = 2; enlist 18 = 3; enlist 27 = 4; law 3 0 = 4;";
+    run(FOUR_DOUBLES, "least 0 = 3; begin 3 8 = 512", again, "least 0 = 2", FOUR_DOUBLES, "least 0 = 3; begin 2 6 = 36", again,
+        "least 0 = 2; least 1 = 2");
     run("begin 4 6 = 1296; enlist 0 = 1; law 3 0 = 1; least 0 = 1; enlist 1295 = 2; least 0 = 2; least 1 = 2");
     run("begin 4 7 = 2401; enlist 0 = 1; law 3 0 = 1; least 0 = -5; best 1 0 0 = -5; tree 1 0 = -5; sum 0 0 = -5");
   }
@@ -262,6 +266,8 @@ public final class PromiseTests {
         "law 0 0 = 64; best 0 0 0 = -5; best 1 1 0 = -5");
     run(FOUR_DOUBLES, "best 0 0 0 = 1; best 1 0 0 = 0; best 1 0 3 = 1; best 1 0 4 = 0; best 1 0 2 = -7; best 0 1 0 = 0",
         "best 1 1 3 = -7; best 1 1 4 = 0; show 18 = 1; tell 20 = 1; best 0 0 0 = 18; best 1 0 1 = 18");
+    run("begin 1 3 = 3; show 1 = 1; tell 0 = 2; best 1 0 0 = 0; best 1 1 0 = 0; undo = 0; show 0 = 1; tell 0 = 2",
+        "best 1 0 0 = 1; best 1 1 0 = 1; best 0 0 0 = 1; undo = 0; best 1 0 0 = 0");
   }
 
   private static void promise24Tree() {
