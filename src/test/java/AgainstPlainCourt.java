@@ -41,8 +41,9 @@ public final class AgainstPlainCourt {
     return random.nextInt(n);
   }
 
-  private int of(String what) {
-    return plain.call("count", Integer.parseInt(what));
+  /** What count() tells. */
+  private int of(int what) {
+    return plain.call("count", what);
   }
 
   /** Mostly a number below n, now and then one that is not. */
@@ -54,14 +55,14 @@ public final class AgainstPlainCourt {
   }
 
   private int code() {
-    int left = of("4");
+    int left = of(4);
     if (left > 0 && any(3) == 0) return plain.call("left", any(left));
-    return near(of("2"));
+    return near(of(2));
   }
 
   private int answer() {
-    if (any(8) == 0) return near(10 * of("0") + 3);
-    if (any(8) == 0) return 10 * any(of("0") + 1) + any(3);
+    if (any(8) == 0) return near(10 * of(0) + 3);
+    if (any(8) == 0) return 10 * any(of(0) + 1) + any(3);
     return plain.call("reply", secret);
   }
 
@@ -73,53 +74,53 @@ public final class AgainstPlainCourt {
         break;
       }
     }
-    secret = any(of("2"));
+    secret = any(of(2));
   }
 
   /** A list with few codes, so that trees can be asked for. */
   private void enlistSome() {
     int n = 1 + any(11);
-    for (int i = 0; i < n; i++) call("enlist", any(of("2")));
-    if (any(4) == 0) for (int i = 0; i < of("1"); i++) call("enlist", i * (of("2") - 1) / Math.max(1, of("1") - 1));
+    for (int i = 0; i < n; i++) call("enlist", any(of(2)));
+    if (any(4) == 0) for (int i = 0; i < of(1); i++) call("enlist", i * (of(2) - 1) / Math.max(1, of(1) - 1));
     call("law", 3, 0);
-    int left = of("4");
+    int left = of(4);
     if (left > 0) secret = plain.call("left", any(left));
   }
 
   private void setUp() {
     switch (any(6)) {
       case 0: begin(); break;
-      case 1: call("law", near(4), near(4 * of("0"))); break;
+      case 1: call("law", near(4), near(4 * of(0))); break;
       case 2: call("lies", near(3)); break;
       case 3: call("enlist", code()); break;
       case 4: if (any(3) == 0) call("begin", near(6), near(9)); break;
       default: enlistSome(); break;
     }
-    if (secret >= of("2")) secret = 0;
+    if (secret >= of(2)) secret = 0;
   }
 
   private void playOn() {
     switch (any(12)) {
-      case 0: call("peg", near(of("0")), any(of("1") + 2) - 1); break;
+      case 0: call("peg", near(of(0)), any(of(1) + 2) - 1); break;
       case 1: case 2: call("show", code()); break;
       case 3: case 4: case 5: call("tell", answer()); break;
       case 6: if (any(2) == 0) call("undo"); break;
       case 7: call("quarrel", any(5) - 1); break;
-      case 8: call("turn", near(of("5")), near(8)); break;
-      case 9: call("part", near(of("6")), near(2)); break;
-      case 10: call("left", near(of("4"))); break;
+      case 8: call("turn", near(of(5)), near(8)); break;
+      case 9: call("part", near(of(6)), near(2)); break;
+      case 10: call("left", near(of(4))); break;
       default: call("sort"); break;
     }
   }
 
   private void look() {
     switch (any(8)) {
-      case 0: call("hand", near(of("0"))); break;
+      case 0: call("hand", near(of(0))); break;
       case 1: call("answer", code(), code()); break;
       case 2: call("reply", code()); break;
       case 3: call("falses", code()); break;
-      case 4: if ((long) of("2") * of("4") <= 20000 || any(6) == 0) call("among", near(4)); break;
-      case 5: if (of("2") <= 256) call("like", code(), code()); break;
+      case 4: if ((long) of(2) * of(4) <= 20000 || any(6) == 0) call("among", near(4)); break;
+      case 5: if (of(2) <= 256) call("like", code(), code()); break;
       default: call("count", near(13)); break;
     }
   }
@@ -131,13 +132,13 @@ public final class AgainstPlainCourt {
       case 2: call("best", near(2), near(2), near(any(2) == 0 ? 21 : 5)); break;
       case 3: call("tree", near(2), near(any(2) == 0 ? 21 : 5)); break;
       case 4: planTheTree(); break;
-      default: call("node", near(of("7")), near(5)); break;
+      default: call("node", near(of(7)), near(5)); break;
     }
   }
 
   private void planTheTree() {
     call("drop");
-    int nodes = of("7");
+    int nodes = of(7);
     for (int k = 0; k < nodes; k++) {
       if (any(30) != 0) call("plan", plain.call("node", k, 1), plain.call("node", k, 2), plain.call("node", k, 0));
     }
@@ -150,9 +151,9 @@ public final class AgainstPlainCourt {
       case 0: if (any(4) == 0) call("drop"); break;
       case 1: call("judge"); break;
       case 2: call("total"); break;
-      default: call("plan", any(6) == 0 ? -1 : near(of("8")), answer(), code()); break;
+      default: call("plan", any(6) == 0 ? -1 : near(of(8)), answer(), code()); break;
     }
-    if (of("8") == 0) call("plan", -1, answer(), code());
+    if (of(8) == 0) call("plan", -1, answer(), code());
   }
 
   private void shelves() {
@@ -161,7 +162,7 @@ public final class AgainstPlainCourt {
       case 0: case 1: call("rack", d, 1 + near(3), near(any(2) == 0 ? 61 : 8)); break;
       case 2: call("keep", d); break;
       case 3: if (any(3) == 0) call("clear", d); break;
-      case 4: case 5: call("put", d, near(8), any(3) == 0 ? random.nextInt() : any(of("1") + 1) - 1); break;
+      case 4: case 5: call("put", d, near(8), any(3) == 0 ? random.nextInt() : any(of(1) + 1) - 1); break;
       case 6: call("at", d, near(8)); break;
       case 7: call("copy", d, near(5), any(2) == 0 ? d : e, near(5), near(5)); break;
       case 8: call("take", d, near(4)); break;
@@ -172,10 +173,10 @@ public final class AgainstPlainCourt {
 
   /** Many weak turns, with lies among them, so that quarrels are large. */
   private void quarrels() {
-    for (int i = 0; i < of("0"); i++) call("peg", i, any(3) == 0 ? -1 : any(of("1")));
+    for (int i = 0; i < of(0); i++) call("peg", i, any(3) == 0 ? -1 : any(of(1)));
     int got = call("tell", any(7) == 0 ? answer() : plain.call("reply", secret));
     if (got == -4) for (int i = -1; i < 11; i++) call("quarrel", i);
-    if (got == -2) while (of("5") > 3) call("undo");
+    if (got == -2) while (of(5) > 3) call("undo");
   }
 
   private boolean run() {
