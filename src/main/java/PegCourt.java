@@ -65,6 +65,7 @@ public final class PegCourt {
         return book.size;
     }
 
+    /** Promise 2 lets the SHELVES alone stay, so whatever else an object has must be set back here. */
     private void startAnew(int places, int colours) {
         book.write(places, colours);
         play.startAnew();
@@ -72,6 +73,7 @@ public final class PegCourt {
         theHand.measure(places, colours);
         theTree.nodes = 0;
         thePlan.empty();
+        refusals = 0;
     }
 
     public int law(int law, int told) {

@@ -41,6 +41,7 @@ final class PlainCourt {
     colours = c;
     law = 0;
     lies = 0;
+    refusals = 0;
     list.clear();
     hand = new int[p];
     Arrays.fill(hand, -1);

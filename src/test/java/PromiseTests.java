@@ -89,6 +89,8 @@ public final class PromiseTests {
     run("lies 2 = 0; begin 3 4 = 64; lies 0 = 0; law 2 1 = 3; begin 3 4 = 64; count 4 = 64; law 3 0 = 0");
     run("begin 2 2 = 4; tell 0 = 4; show 0 = 1; tell 20 = 1; falses 1 = 1; begin 2 2 = 4; falses 1 = 0; begin 4 4 = 256",
         "begin 2 2 = 4; left 3 = 3; left 4 = -1");
+    run("hand 3 = -13; put 0 0 0 = -11; begin 5 6 = -5; begin 0 1 = -1; count 12 = 2; begin 1 1 = 1; count 12 = 0",
+        "hand 1 = -13; rack 0 1 -1 = -14; toss 0 = -11; count 12 = 3; begin 1 1 = 1; count 12 = 0");
   }
 
   private static void promise3Law() {
@@ -131,7 +133,7 @@ public final class PromiseTests {
 
   private static void promise8Hand() {
     run("hand 0 = -1; peg 1 2 = -1; hand 1 = 2; hand 3 = -13; hand -1 = -13; hand MAX = -13; count 12 = 3",
-        "begin 5 2 = 32; hand 4 = -1; hand 5 = -13; begin 1 2 = 2; hand 1 = -13; count 12 = 5");
+        "begin 5 2 = 32; hand 4 = -1; hand 5 = -13; begin 1 2 = 2; hand 1 = -13; count 12 = 1");
   }
 
   private static void promise9Sort() {
@@ -409,8 +411,9 @@ public final class PromiseTests {
     run("rack 0 1 -1 = -14; put 0 0 0 = -11; copy 0 0 0 0 0 = -11; take 0 0 = -11; kept 0 0 = -11; toss 0 = -11; count 12 = 6",
         "keep 0 = 3; put 0 0 0 = -12; copy 0 0 0 0 0 = -12; take 0 0 = -12; kept 0 8 = -13; toss 0 = -15; count 12 = 11",
         "rack 0 1 1 = 1; put 0 1 0 = -13; copy 0 1 0 1 1 = -13; take 0 0 = -13; kept 0 0 = -12; toss 0 = -12; count 12 = 16",
-        "peg 3 0 = -13; hand 3 = -13; count 12 = 18; peg 0 9 = -16; put 0 0 9 = 0; begin 1 4 = 4; take 0 0 = -16; at 1 0 = STATE",
-        "at 9 0 = ARGUMENT; show 99 = -1; tell 99 = -1; tell 10 = -4; among 9 = -1; count 12 = 18");
+        "peg 3 0 = -13; hand 3 = -13; count 12 = 18; peg 0 9 = -16; put 0 0 9 = 0; rack 1 1 3 = 3; put 1 0 9 = 0",
+        "take 1 0 = -16; at 2 0 = STATE; at 9 0 = ARGUMENT; show 99 = -1; tell 99 = -1; among 9 = -1; count 12 = 18",
+        "begin 1 4 = 4; take 1 0 = -16; tell 10 = -4; at 2 0 = STATE; at 9 0 = ARGUMENT; count 12 = 0; toss 1 = -12; count 12 = 1");
   }
 
   private static void all() {
