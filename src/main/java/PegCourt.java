@@ -29,7 +29,8 @@ public final class PegCourt {
     private final Parts parts;
     private final Survey survey;
     private final Turnings turnings;
-    private final Forest[] forests;
+    private final Forest forestByAny;
+    private final Forest forestByOwn;
     private final Tree theTree;
     private final Plan thePlan;
     private final Shelf[] shelves;
@@ -42,7 +43,8 @@ public final class PegCourt {
         parts = new Parts();
         survey = new Survey();
         turnings = new Turnings(book);
-        forests = new Forest[2];
+        forestByAny = new Forest(book, true);
+        forestByOwn = new Forest(book, false);
         theTree = new Tree();
         thePlan = new Plan();
         shelves = new Shelf[SHELVES];
@@ -344,14 +346,8 @@ public final class PegCourt {
         return 0;
     }
 
-    /** A forest's rows are large, so it is made when a call first wants it, and then used again. */
     private Forest forestOf(int pool) {
-        int place = pool == 0 ? 0 : 1;
-        Forest forest = forests[place];
-        if (forest == null) {
-            forest = new Forest(book, pool == 0);
-            forests[place] = forest;
-        }
+        Forest forest = pool == 0 ? forestByAny : forestByOwn;
         forest.standFor(play);
         return forest;
     }
@@ -631,14 +627,14 @@ public final class PegCourt {
         }
     }
 
-    /** All CODES of the PLACES and COLOURS. Its rows grow when more CODES come, and are used again otherwise. */
+    /** All CODES of the PLACES and COLOURS. Its rows have room for the most CODES, so that begin() makes none. */
     private static final class CodeBook {
         private int places;
         private int colours;
         private int size;
-        private int[] spots = new int[0];
-        private int[] shares = new int[0];
-        private int[] packs = new int[0];
+        private final int[] spots = new int[MOST_CODES];
+        private final int[] shares = new int[MOST_CODES];
+        private final int[] packs = new int[MOST_CODES];
         private final Guess pen = new Guess();
 
         private static int codesOf(int places, int colours) {
@@ -653,11 +649,6 @@ public final class PegCourt {
             places = newPlaces;
             colours = newColours;
             size = codesOf(newPlaces, newColours);
-            if (spots.length < size) {
-                spots = new int[size];
-                shares = new int[size];
-                packs = new int[size];
-            }
             pen.fillWith(0);
             for (int code = 0; code < size; code++) {
                 pen.measure(places, colours);
@@ -740,11 +731,11 @@ public final class PegCourt {
         private final QuarrelFinder finder = new QuarrelFinder();
         private final int[] pegs = new int[MOST_TURNS * MOST_PLACES];
         private final int[] answers = new int[MOST_TURNS];
-        private boolean[] listed = new boolean[0];
-        private boolean[] allowed = new boolean[0];
+        private final boolean[] listed = new boolean[MOST_CODES];
+        private final boolean[] allowed = new boolean[MOST_CODES];
         /** For each CODE a bit for each TURN that is FALSE for it. */
-        private int[] falseTurns = new int[0];
-        private int[] left = new int[0];
+        private final int[] falseTurns = new int[MOST_CODES];
+        private final int[] left = new int[MOST_CODES];
         private int law;
         private int told;
         private int lies;
@@ -762,12 +753,6 @@ public final class PegCourt {
         }
 
         private void startAnew() {
-            if (left.length < book.size) {
-                listed = new boolean[book.size];
-                allowed = new boolean[book.size];
-                falseTurns = new int[book.size];
-                left = new int[book.size];
-            }
             for (int code = 0; code < book.size; code++) {
                 listed[code] = false;
                 falseTurns[code] = 0;
@@ -1376,6 +1361,9 @@ public final class PegCourt {
                 return;
             }
             int guess = shortGuess(set, depth);
+            if (guess == NONE) {
+                return;
+            }
             int here = tree.nodes;
             tree.add(guess, origin, originAnswer, Integer.bitCount(set));
             int answer = nextAnswer(guess, set, -1);

@@ -125,11 +125,29 @@ public final class FaceTests {
     }
   }
 
+  /** Rows and objects are made with the object alone: in what a field begins with, or in a constructor. */
+  private static void makings() throws IOException {
+    String source = Files.readString(Path.of(System.getProperty("pegcourt.source", "src/main/java/PegCourt.java")));
+    Pattern member = Pattern.compile(" {4,8}(public|private) ([^(=;]*)\\(.*\\{");
+    boolean making = false;
+    int line = 0;
+    for (String row : source.split("\n")) {
+      line++;
+      Matcher head = member.matcher(row);
+      if (head.matches()) making = head.group(2).matches("[A-Z]\\w*");
+      if (row.matches(" *(/?\\*|//).*")) continue;
+      boolean field = row.matches(" {4,8}private (static )?final .* = .*;");
+      check(field || making || !row.replace("throw new", "").matches(".*(\\bnew\\b|\\.clone\\(|copyOf).*"),
+          "line " + line + " makes an object in a call");
+    }
+  }
+
   public static void main(String[] args) throws Exception {
     methods();
     constants();
     classes();
     text();
+    makings();
     System.out.println(wrong == 0 ? "the face is as due" : wrong + " faults of the face");
     if (wrong != 0) System.exit(1);
   }
