@@ -1,7 +1,6 @@
 /**
  * For each promise of the document: ordinary inputs, the edges that it names, and wrong inputs. What is due was worked
- * out from the document's words. A run is a text of calls on a new object, each with its answer: "begin 3 3 = 27";
- * ARGUMENT and STATE are the exceptions of at().
+ * out from the document's words. A run is a text of calls on a new object, as CourtRun reads it.
  */
 public final class PromiseTests {
   private static int promise = 0;
@@ -11,49 +10,22 @@ public final class PromiseTests {
   private PromiseTests() { }
 
   private static void run(String... texts) {
-    PegCourt x = new PegCourt();
-    for (String text : texts) {
-      for (String call : text.split(";")) {
-        if (!call.isBlank()) ask(x, call.trim());
+    ask(new CourtRun(), texts);
+  }
+
+  private static void ask(CourtRun court, String... texts) {
+    for (String call : CourtRun.callsOf(texts)) {
+      asked++;
+      String fault = court.faultOf(call);
+      if (!fault.isEmpty()) {
+        wrong++;
+        System.out.println("promise " + promise + ": " + fault);
       }
     }
   }
 
-  private static void ask(PegCourt x, String call) {
-    String[] sides = call.split(" = ");
-    String[] words = sides[0].split(" ");
-    int[] numbers = new int[words.length - 1];
-    for (int i = 0; i < numbers.length; i++) numbers[i] = number(words[i + 1]);
-    int want = number(sides[1].trim());
-    asked++;
-    String answered;
-    try {
-      int got = CourtCalls.call(x, words[0], numbers);
-      if (got == want) return;
-      answered = " answered " + got;
-    } catch (RuntimeException e) {
-      answered = " threw " + e;
-    }
-    wrong++;
-    System.out.println("promise " + promise + ": " + sides[0] + answered + ", due is " + sides[1]);
-  }
-
-  private static int number(String word) {
-    switch (word) {
-      case "MAX": return Integer.MAX_VALUE;
-      case "MIN": return Integer.MIN_VALUE;
-      case "ARGUMENT": return PlainCourt.ARGUMENT;
-      case "STATE": return PlainCourt.STATE;
-      default: return Integer.parseInt(word);
-    }
-  }
-
   private static String repeated(int from, int to, String call) {
-    StringBuilder text = new StringBuilder();
-    for (int i = from; i < to; i++) {
-      text.append(call.replace("NEXT", String.valueOf(i + 1)).replace("THIS", String.valueOf(i))).append(';');
-    }
-    return text.toString();
+    return CourtRun.repeated(from, to, call);
   }
 
   /** Codes 00, 11, 22, 33 of 2 places and 8 colours: those that no guess tells apart well. */
@@ -66,14 +38,10 @@ public final class PromiseTests {
         repeated(7, 13, "count THIS = 0"),
         "hand 0 = -1; hand 1 = -1; hand 2 = -1; hand 3 = -13; sort = 3; quarrel -1 = -1; undo = -1; judge = -1",
         "node 0 0 = -1; drop = 0; turn 0 0 = -1", repeated(0, 6, "clear THIS = 0"));
-    PegCourt one = new PegCourt();
-    PegCourt other = new PegCourt();
-    ask(one, "begin 2 3 = 9");
-    ask(one, "rack 0 1 3 = 3");
-    ask(one, "hand 9 = -13");
-    ask(other, "count 2 = 64");
-    ask(other, "clear 0 = 0");
-    ask(other, "count 12 = 0");
+    CourtRun one = new CourtRun();
+    CourtRun other = new CourtRun();
+    ask(one, "begin 2 3 = 9; rack 0 1 3 = 3; hand 9 = -13");
+    ask(other, "count 2 = 64; clear 0 = 0; count 12 = 0");
   }
 
   private static void promise2Begin() {
