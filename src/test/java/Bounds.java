@@ -62,6 +62,13 @@ final class Bounds {
     return text.toString();
   }
 
+  /** The way to a state in which just these codes are left. */
+  static String listed(int places, int colours, int... codes) {
+    StringBuilder text = new StringBuilder("begin " + places + " " + colours + " = " + (int) Math.pow(colours, places));
+    for (int i = 0; i < codes.length; i++) text.append("; enlist ").append(codes[i]).append(" = ").append(i + 1);
+    return text + "; law 3 0 = " + codes.length + ";";
+  }
+
   /** Where the next sentences stand in the document: "Terms", "Promise 1" .. */
   static void in(String where) {
     section = where;

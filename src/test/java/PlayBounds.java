@@ -49,6 +49,13 @@ final class PlayBounds {
       Bounds.alike("begin 1 1 = 1;", state + "begin 1 1 = 1;");
       Bounds.shelvesAlike(state, state + "begin 5 2 = 32;");
     }
+    // the same numbers are other codes, with other trees
+    String numbers = Bounds.FOUR_DOUBLES.substring(Bounds.FOUR_DOUBLES.indexOf("enlist"));
+    String trees = Bounds.FOUR_DOUBLES + "least 0 = 3; least 1 = 4; among 0 = 2;";
+    Bounds.alike("begin 3 8 = 512;" + numbers, trees + "begin 3 8 = 512;" + numbers);
+    Bounds.alike("begin 2 6 = 36;" + numbers, trees + "begin 2 6 = 36;" + numbers);
+    Bounds.run(trees, "begin 3 8 = 512", numbers, "least 0 = 2", trees, "begin 2 6 = 36", numbers, "least 0 = 2",
+        "least 1 = 2");
     Bounds.run("hand 3 = -13; count 12 = 1; begin 3 4 = 64; count 12 = 0; law 3 0 = 0; plan -1 0 0 = 0",
         "begin 3 4 = 64; plan -1 0 0 = 0");
     Bounds.run("begin 4 8 = 4096; enlist 4095 = 1; show 4095 = 1; tell 40 = 1; begin 1 1 = 1; falses 0 = 0",
@@ -198,7 +205,8 @@ final class PlayBounds {
     Bounds.says("A TURN: THE HAND with this ANSWER: how many CODES are LEFT.");
     Bounds.run("tell 0 = 64; turn 0 1 = -1; turn 0 0 = 0; show 0 = 1; tell 0 = 27; turn 1 1 = 0; turn 1 3 = 0",
         "count 5 = 2; show 63 = 1; tell 30 = 1; turn 2 0 = 30; turn 1 1 = 0; count 4 = 1; left 0 = 63");
-    Bounds.run("begin 4 8 = 4096; tell 0 = 4096; show 4095 = 1; tell 40 = 1; left 0 = 4095");
+    Bounds.run("begin 4 8 = 4096; tell 0 = 4096; show 4095 = 1; tell 40 = 1; left 0 = 4095; tell 30 = -4",
+        "falses 0 = 1; falses 4095 = 0; undo = 1; falses 0 = 0; count 4 = 4096");
 
     Bounds.says("NONE: it can't be told as an ANSWER;");
     Bounds.run("tell 0 = 64; tell 3 = -4; tell 4 = -1; tell 12 = -4; tell 13 = -1; tell 21 = -4; tell 22 = -1",

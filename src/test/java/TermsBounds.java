@@ -328,6 +328,20 @@ final class TermsBounds {
         + "of all that are WITHIN d those that guess the CODE with the least number first;");
     Bounds.run(Bounds.FOUR_DOUBLES, "tree 0 2 = -7; tree 0 3 = 5; node 0 0 = 1; tree 0 4 = 4; node 0 0 = 0",
         "tree 0 0 = 4; node 0 0 = 0; tree 1 3 = -7; tree 1 4 = 4; node 0 0 = 0; count 7 = 4");
+    // 59 parts ten codes by ten answers, and is none of them; a tree of at most 3 guesses has here 14 of them
+    Bounds.run(Bounds.listed(4, 6, 28, 63, 298, 317, 359, 366, 851, 923, 952, 1088), "sum 0 0 = 20; tree 0 0 = 11",
+        "node 0 0 = 59; node 1 0 = 952; node 10 0 = 923; node 10 2 = 30; node 11 0 = -1; sum 0 2 = 20; sum 1 0 = 21");
+    Bounds.run(Bounds.listed(2, 8, 3, 11, 15, 18, 19, 22, 27, 43, 44, 47), "sum 0 0 = 27; sum 0 3 = 30; sum 0 2 = -7",
+        "tree 0 3 = 14; node 12 0 = 19; node 13 0 = 18; node 13 4 = 3; node 14 0 = -1; count 7 = 14");
+    // 13 parts the four as well as 22, but is none of them; of the three, 9 does not part the others
+    Bounds.run(Bounds.listed(3, 4, 21, 22, 51, 53), "best 0 0 0 = 13; sum 0 0 = 7; tree 0 0 = 4; node 0 0 = 22");
+    Bounds.run(Bounds.listed(3, 4, 9, 55, 60), "sum 0 0 = 5; tree 0 0 = 3; node 0 0 = 55; node 1 0 = 9",
+        "node 2 0 = 60; tree 1 0 = 3; node 0 0 = 55");
+    // the least code that will do is one of the last
+    Bounds.run(Bounds.listed(4, 6, 240, 354, 538, 676, 765, 916, 1097, 1158, 1208, 1287), "sum 0 0 = 21",
+        "tree 0 0 = 11; node 0 0 = 1286; sum 1 0 = 22");
+    Bounds.run(Bounds.listed(4, 6, 10, 193, 254, 480, 604, 812, 911, 1083, 1218, 1279), "sum 0 0 = 21; tree 0 0 = 10",
+        "node 0 0 = 1279; tree 1 0 = 10; node 0 0 = 1279");
     // 333 and 332: a guess of another code would have the sum 4
     Bounds.run("enlist 63 = 1; enlist 62 = 2; law 3 0 = 2; tree 0 0 = 2; node 0 0 = 62; node 1 0 = 63");
 

@@ -51,6 +51,12 @@ final class TreesBounds {
     Bounds.run(TWO_CODES, "least 0 = 2; least 1 = 2; begin 1 8 = 8; least 0 = 8; least 1 = 8; begin 1 1 = 1",
         "least 0 = 1; least 1 = 1");
 
+    // as many are left as before, but others
+    Bounds.run("law 2 1 = 3; least 0 = 2; sum 0 0 = 6; best 1 0 0 = 1; best 0 0 0 = 6; best 1 1 0 = 1; law 2 8 = 3",
+        "least 0 = 2; sum 0 0 = 6; best 1 0 0 = 11; best 0 0 0 = 11; best 1 1 0 = 47; tree 0 0 = 4; node 1 0 = 62");
+    Bounds.run("begin 1 8 = 8; law 2 3 = 1; best 0 0 0 = 3; law 2 4 = 1; best 0 0 0 = 4; best 0 1 0 = 4; law 2 8 = 0",
+        "best 0 0 0 = -5");
+
     Bounds.says("NONE: no such POOL;");
     Bounds.refused(Bounds.MIDDLE, "least 2 = -1", "least -1 = -1", "least MAX = -1", "least MIN = -1");
 
