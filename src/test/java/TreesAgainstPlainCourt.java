@@ -4,6 +4,11 @@ import java.util.TreeSet;
 /** Trees for up to ten codes, ordinary ones and such as no guess tells apart well: as the plain court finds them. */
 public final class TreesAgainstPlainCourt {
   private static final int[][] SIZES = {{2, 8}, {3, 8}, {4, 6}, {5, 4}, {3, 5}, {2, 6}, {4, 3}};
+  /** Places, colours and a list whose trees go wrong if guesses that divide it differently are taken for one. */
+  private static final int[][] TELLING = {
+    {5, 3, 74, 96, 106, 121, 122, 143, 146, 173, 179, 193},
+    {4, 6, 248, 275, 534, 764, 834, 1005, 1023, 1034, 1110, 1134},
+  };
   private static int wrong = 0;
 
   private TreesAgainstPlainCourt() { }
@@ -52,25 +57,33 @@ public final class TreesAgainstPlainCourt {
     compare(court, plain, told, "best", 0, pool, depth);
   }
 
+  private static void compareAll(int places, int colours, TreeSet<Integer> some) {
+    PlainCourt plain = new PlainCourt();
+    int codes = plain.call("begin", places, colours);
+    for (int code : some) plain.call("enlist", code);
+    plain.call("law", 3, 0);
+    String told = "begin(" + places + ", " + colours + "), list " + some;
+    for (int depth = codes > 300 ? 4 : 11; depth >= 0; depth--) {
+      for (int pool = 0; pool <= 1; pool++) {
+        plain.call("tree", 0, 0);
+        PegCourt court = court(places, colours, some);
+        court.tree(0, 0);
+        compareTrees(court, plain, told, pool, depth);
+      }
+    }
+  }
+
   public static void main(String[] args) {
     int runs = args.length > 0 ? Integer.parseInt(args[0]) : 140;
     Random random = new Random(args.length > 1 ? Long.parseLong(args[1]) : 7);
+    for (int[] row : TELLING) {
+      TreeSet<Integer> some = new TreeSet<>();
+      for (int i = 2; i < row.length; i++) some.add(row[i]);
+      compareAll(row[0], row[1], some);
+    }
     for (int i = 0; i < runs && wrong < 10; i++) {
       int places = SIZES[i % SIZES.length][0], colours = SIZES[i % SIZES.length][1];
-      PlainCourt plain = new PlainCourt();
-      int codes = plain.call("begin", places, colours);
-      TreeSet<Integer> some = chosen(random, places, colours, codes);
-      for (int code : some) plain.call("enlist", code);
-      plain.call("law", 3, 0);
-      String told = "begin(" + places + ", " + colours + "), list " + some;
-      for (int depth = codes > 300 ? 4 : 11; depth >= 0; depth--) {
-        for (int pool = 0; pool <= 1; pool++) {
-          plain.call("tree", 0, 0);
-          PegCourt court = court(places, colours, some);
-          court.tree(0, 0);
-          compareTrees(court, plain, told, pool, depth);
-        }
-      }
+      compareAll(places, colours, chosen(random, places, colours, (int) Math.pow(colours, places)));
     }
     System.out.println(wrong == 0 ? "all trees are the plain court's" : wrong + " answers differ");
     if (wrong != 0) System.exit(1);
